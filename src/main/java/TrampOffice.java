@@ -23,24 +23,21 @@ public final class TrampOffice {
     private final Port[] route = new Port[ROUTE];
     private int portCount, shipCount, offerCount, textCount, charterCount, routeCount;
     private final Reach reach = new Reach();
-    private final Search search = new Search(offers);
+    private final Search search = new Search();
     private final Bunkering bunkering = new Bunkering();
     private final Reader reader = new Reader();
+    /** What the tape is read into: a text that has a fault is read over by the next one. */
+    private Text spare = new Text(0);
     private final Tally tally = new Tally();
 
     public TrampOffice() {
-        for (int i = 0; i < TEXTS; i++) {
-            texts[i] = new Text(i);
-        }
         for (int i = 0; i < SHEETS; i++) {
             sheets[i] = new Sheet();
         }
         for (int i = 0; i < FIRST_TEXT.length(); i++) {
             reader.append(FIRST_TEXT.charAt(i));
         }
-        reader.read(texts[0]);
-        reader.emptyTape();
-        textCount = 1;
+        text();
     }
 
     // ---- ports, ships
@@ -177,7 +174,7 @@ public final class TrampOffice {
         if (s == null || !within(depth, 1, DEPTH)) {
             return NO;
         }
-        search.run(s, offerCount, depth);
+        search.run(s, offers, offerCount, depth);
         if (search.size == 0) {
             return NO;
         }
@@ -194,7 +191,7 @@ public final class TrampOffice {
         if (s == null || !within(depth, 1, DEPTH)) {
             return BAD;
         }
-        search.run(s, offerCount, depth);
+        search.run(s, offers, offerCount, depth);
         return search.link(i);
     }
 
@@ -326,13 +323,14 @@ public final class TrampOffice {
         if (textCount >= TEXTS) {
             return FULL;
         }
-        // a text that has a fault leaves its row half written: it is not counted, and the next one is read over it
-        int fault = reader.read(texts[textCount]);
+        int fault = reader.read(spare);
         reader.emptyTape();
         if (fault != NONE) {
             return -100 - fault;
         }
+        texts[textCount] = spare;
         textCount++;
+        spare = new Text(textCount);
         return textCount - 1;
     }
 
@@ -738,22 +736,17 @@ public final class TrampOffice {
         int hours;
         private final int[] links = new int[DEPTH];
         private final int[] trial = new int[DEPTH];
-        private final Offer[] offers;
         private final Reach reach = new Reach();
         private int count;
         private int depth;
 
-        Search(Offer[] offers) {
-            this.offers = offers;
-        }
-
-        void run(Ship ship, int count, int depth) {
-            this.count = Math.min(count, offers.length);
-            this.depth = Math.min(depth, DEPTH);
+        void run(Ship ship, Offer[] offers, int offerCount, int most) {
+            count = Math.min(offerCount, offers.length);
+            depth = Math.min(most, DEPTH);
             size = 0;
             earned = 0;
             hours = 0;
-            extend(ship, ship.at, ship.hour, 0, 0);
+            extend(ship, offers, ship.at, ship.hour, 0, 0);
         }
 
         int link(int i) {
@@ -761,7 +754,7 @@ public final class TrampOffice {
         }
 
         /** Tries each offer behind the first ones of the trial, which earn a sum and end at a port and an hour. */
-        private void extend(Ship ship, Port at, int hour, long sum, int tried) {
+        private void extend(Ship ship, Offer[] offers, Port at, int hour, long sum, int tried) {
             if (tried < 0 || tried >= depth) {
                 return;
             }
@@ -779,7 +772,7 @@ public final class TrampOffice {
                 long sumThen = sum + reach.earned;
                 trial[tried] = k;
                 keepIfBetter(tried + 1, sumThen, end - ship.hour);
-                extend(ship, offer.to, end, sumThen, tried + 1);
+                extend(ship, offers, offer.to, end, sumThen, tried + 1);
             }
         }
 
@@ -950,8 +943,8 @@ public final class TrampOffice {
         int size;
         private final int[] tape = new int[TAPE];
         private int count;
-        private final int[] tokens = new int[TAPE + 1];
-        private final int[] places = new int[TAPE + 1];
+        private final int[] tokens = new int[TAPE];
+        private final int[] places = new int[TAPE];
         private int at;
         private int token;
         private int fault;
@@ -1122,10 +1115,6 @@ public final class TrampOffice {
             if (isWord("not", from, end)) {
                 return Text.NOT;
             }
-            return nameToken(from, end);
-        }
-
-        private int nameToken(int from, int end) {
             if (isWord("sort", from, end)) {
                 return Text.SORT;
             }

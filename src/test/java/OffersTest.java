@@ -339,6 +339,24 @@ public final class OffersTest {
         best(y, 0, 1, 987, 12, 1);
     }
 
+    /** 111 in 11 hours and 121 in 12: 1332 and 1331, if each is set against the other's hours. */
+    private static void closely() {
+        for (int first = 0; first < 2; first++) {
+            TrampOffice x = triangle();
+            x.way(0, 2, 90);
+            for (int i = 0; i < 2; i++) {
+                if (i == first) {
+                    x.offer(0, 2, 41, 3, 0, 9999);
+                } else {
+                    x.offer(0, 1, 67, 2, 0, 9999);
+                }
+            }
+            best(x, 0, 1, 111, 11, first);
+            due.is(121, x.estimate(0, 1 - first, 3), "12: the other earns more");
+            due.is(12, x.estimate(0, 1 - first, 1), "12: the other takes more hours");
+        }
+    }
+
     private static void waiting() {
         TrampOffice x = triangle();
         x.free(0, 0, 50);
@@ -365,6 +383,7 @@ public final class OffersTest {
         chains();
         likeChains();
         losses();
+        closely();
         waiting();
         due.end();
     }

@@ -249,6 +249,31 @@ public final class TextsTest {
         goodLay("((((1--1))))");
     }
 
+    /** Texts of 160 bytes, with a fault at the end and without one. */
+    private static void longTexts() {
+        StringBuilder ones = new StringBuilder("1");
+        while (ones.length() < 147) {
+            ones.append("+1");
+        }
+        TrampOffice x = new TrampOffice();
+        x.port(10, 1);
+        x.ship(0, 100, 10, 1);
+        x.log(0, 0, 100);
+        for (int i = 0; i < 3; i++) {
+            due.is(160, feed(x, "lay " + ones + " ;off 0*;"), "23: 160 bytes");
+            due.is(-259, x.text(), "24: the last one can't stand there");
+        }
+        String e = ones.substring(0, 145);
+        due.is(160, feed(x, "lay " + e + "=73;off  0;"), "23: 160 bytes");
+        due.is(1, x.text(), "24: 160 bytes, 73 ones");
+        due.is(160, feed(x, "lay " + e + "=72;off  1;"), "23: 160 bytes");
+        due.is(2, x.text(), "24: 160 bytes, not 72 of them");
+        x.charter(0, 0, 0, 49, 1, 0);
+        x.charter(0, 0, 50, 99, 2, 0);
+        due.is(50, x.charterTold(0, 5), "24: lay, all of them");
+        due.is(50, x.charterTold(1, 6), "24: off, all of them");
+    }
+
     /** What an E is for the first hours of a log: told by 1 and 0 where it is set against a number. */
     private static void is(int v, String e, int sort, int hour) {
         TrampOffice x = new TrampOffice();
@@ -377,6 +402,7 @@ public final class TextsTest {
         tokens();
         grammar();
         open();
+        longTexts();
         values();
         rows();
         due.end();
