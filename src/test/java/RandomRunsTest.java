@@ -1,4 +1,3 @@
-import java.lang.reflect.Method;
 import java.util.ArrayList;
 import java.util.Arrays;
 import java.util.HashMap;
@@ -10,8 +9,6 @@ import java.util.Random;
 public final class RandomRunsTest {
     private static final int RUNS = 490;
     private static final int CALLS = 512;
-    private static final Map<String, Method> CLASS = new HashMap<>();
-    private static final Map<String, Method> MODEL = new HashMap<>();
     private static final String[] WORDS = {"sort", "weekday", "clock", "hour", "over", "lay", "off", "or", "and", "not",
         "(", ")", ";", "+", "-", "*", "<", "=", " ", "\n", "12345", "0", "weekdays", "x", "A", "\u0080", ">", "\t", "`", "{", "/", ":"};
     private static final String[] NAMES = {"sort", "weekday", "clock", "hour", "over"};
@@ -19,8 +16,8 @@ public final class RandomRunsTest {
     private final Due due = new Due("RandomRunsTest");
     private final Map<String, Map<String, Integer>> kinds = new HashMap<>();
     private Random random;
-    private TrampOffice office;
-    private Model model;
+    private Calls office;
+    private Calls model;
     private List<String> told;
     private boolean broken;
 
@@ -32,23 +29,26 @@ public final class RandomRunsTest {
     private long call(String name, Object... args) {
         String call = name + Arrays.toString(args);
         told.add(call);
+        long want = model.call(name, args);
+        long got = answer(name, args);
+        if (want != got && !broken) {
+            broken = true;
+            List<String> last = told.subList(Math.max(0, told.size() - 60), told.size());
+            System.out.println("the last calls of the run: " + String.join("; ", last));
+        }
+        due.is(want, got, call);
+        String kind = name.equals("why") ? "w" + want : want >= 0 ? "0.." : want == TrampOffice.NO ? "NO" : want <= -100 ? "-100.." : Long.toString(want);
+        kinds.computeIfAbsent(name, k -> new HashMap<>()).merge(kind, 1, Integer::sum);
+        return want;
+    }
+
+    /** What the class answers, or a number that is no answer if the machine throws in it. */
+    private long answer(String name, Object... args) {
         try {
-            Object want = MODEL.get(name).invoke(model, args);
-            Object got = CLASS.get(name).invoke(office, args);
-            long w = ((Number) want).longValue();
-            long g = ((Number) got).longValue();
-            if (w != g && !broken) {
-                broken = true;
-                List<String> last = told.subList(Math.max(0, told.size() - 60), told.size());
-                System.out.println("the last calls of the run: " + String.join("; ", last));
-            }
-            due.is(w, g, call);
-            String kind = name.equals("why") ? "w" + w : w >= 0 ? "0.." : w == TrampOffice.NO ? "NO" : w <= -100 ? "-100.." : Long.toString(w);
-            kinds.computeIfAbsent(name, k -> new HashMap<>()).merge(kind, 1, Integer::sum);
-            return w;
-        } catch (ReflectiveOperationException e) {
-            due.holds(false, call + " threw " + e.getCause() + " after " + told);
-            return 0;
+            return office.call(name, args);
+        } catch (IllegalStateException e) {
+            System.out.println(e.getMessage());
+            return Long.MIN_VALUE;
         }
     }
 
@@ -73,7 +73,7 @@ public final class RandomRunsTest {
     }
 
     private int one(int what) {
-        int many = model.count(what);
+        int many = model.size(what);
         return chance(2) || many == 0 ? wrong() : chance(2) ? many : random.nextInt(many);
     }
 
@@ -84,7 +84,7 @@ public final class RandomRunsTest {
     }
 
     private int onLog(int ship) {
-        int size = model.shipTold(ship, 6);
+        int size = (int) model.call("shipTold", ship, 6);
         return size <= 0 || chance(10) ? hour() : chance(10) ? size : chance(10) ? size - 1 : random.nextInt(size);
     }
 
@@ -136,14 +136,14 @@ public final class RandomRunsTest {
     private void ways() {
         for (int a = 0; a < 8; a++) {
             for (int b = a + 1; b < 8; b++) {
-                if (a < model.count(0) && b < model.count(0) && chance(85)) call("way", a, b, theme == Theme.ROUTES ? number(1, 200) : theme == Theme.TIES ? 100 : miles());
+                if (a < model.size(0) && b < model.size(0) && chance(85)) call("way", a, b, theme == Theme.ROUTES ? number(1, 200) : theme == Theme.TIES ? 100 : miles());
             }
         }
     }
 
     private void routes() {
         switch (random.nextInt(10)) {
-            case 0: case 1: if (model.count(6) < 4 || chance(20)) call("go", one(0)); break;
+            case 0: case 1: if (model.size(6) < 4 || chance(20)) call("go", one(0)); break;
             case 3: if (chance(10)) call("clear"); break;
             case 4: call("bunker", random.nextInt(2)); break;
             case 5: case 6: call("bought", one(1), number(0, 5)); break;
@@ -240,7 +240,7 @@ public final class RandomRunsTest {
             case 2: if (chance(50)) call("lift", charter, chance(50)); break;
             case 3: case 4: call("charterTold", charter, number(0, 8)); break;
             case 5: case 6: call("pays", charter); break;
-            case 7: case 8: call("counts", charter, Math.max(model.charterTold(charter, 2), 0) + number(0, 20)); break;
+            case 7: case 8: call("counts", charter, Math.max((int) model.call("charterTold", charter, 2), 0) + number(0, 20)); break;
             case 9: call("account", one(1), hour()); break;
             case 10: call("owners", one(1)); break;
             default: call("taken", charter, number(0, 5)); break;
@@ -278,8 +278,8 @@ public final class RandomRunsTest {
     private void run(int seed) {
         random = new Random(seed);
         theme = Theme.values()[seed % Theme.values().length];
-        office = new TrampOffice();
-        model = new Model();
+        office = Calls.ofClass();
+        model = Calls.ofModel();
         told = new ArrayList<>();
         int ports = 2 + random.nextInt(7);
         for (int i = 0; i < ports; i++) port();
@@ -295,12 +295,6 @@ public final class RandomRunsTest {
     }
 
     public static void main(String[] args) {
-        for (Method m : TrampOffice.class.getDeclaredMethods()) {
-            if (java.lang.reflect.Modifier.isPublic(m.getModifiers())) CLASS.put(m.getName(), m);
-        }
-        for (Method m : Model.class.getDeclaredMethods()) {
-            if (CLASS.containsKey(m.getName()) && Arrays.equals(m.getParameterTypes(), CLASS.get(m.getName()).getParameterTypes())) MODEL.put(m.getName(), m);
-        }
         RandomRunsTest test = new RandomRunsTest();
         for (int seed = 0; seed < RUNS && !test.broken; seed++) test.run(seed);
         if (args.length > 0) System.out.println(test.kinds);
