@@ -271,7 +271,197 @@ public final class ChartersTest {
         }
     }
 
+    /** A log that goes on behind a charter: the first hour, the last one, and one outside on both sides. */
+    private static void countsOutside() {
+        TrampOffice x = fleet();
+        x.log(0, 1, 30);
+        x.charter(0, 0, 10, 19, 0, 0);
+        x.charter(1, 0, 25, 25, 0, 0);
+        int[] hours = {0, 9, 10, 19, 20, 24, 25, 26, 29, 30};
+        for (int hour : hours) {
+            due.is(hour >= 10 && hour <= 19 ? 0 : NONE, x.counts(0, hour), "29: hour " + hour + " of 10 .. 19");
+            due.is(hour == 25 ? 0 : NONE, x.counts(1, hour), "29: hour " + hour + " of 25 .. 25");
+            due.is(hour >= 10 && hour <= 19 ? 0 : hour == 25 ? 1 : NONE, x.account(0, hour), "30: hour " + hour);
+        }
+        due.is(10, x.charterTold(0, 5), "27: lay hours of 10 .. 19");
+        due.is(1, x.charterTold(1, 5), "27: lay hours of 25 .. 25");
+        due.is(30 - 11, x.owners(0), "31: the rest");
+        x.charter(5, 0, 20, 22, 0, 0);
+        due.is(0, x.counts(2, 20), "29: a subject not yet lifted");
+        x.lift(2, true);
+        due.is(0, x.counts(2, 22), "29: a subject that is lifted");
+        x.charter(5, 0, 0, 9999 - 9990, 0, 0);
+        x.lift(3, false);
+        due.is(NONE, x.counts(3, 0), "29: one that fell");
+        due.is(NONE, x.counts(3, 9), "29: one that fell");
+    }
+
+    /** The first and the last hour that there are, and the last one that a log has. */
+    private static void edgesOfTime() {
+        TrampOffice x = fleet();
+        for (int i = 0; i < 4; i++) {
+            x.log(0, i == 3 ? 4 : 0, 500);
+        }
+        due.is(0, x.charter(0, 0, 0, 0, 0, 0), "25: hour 0 alone");
+        due.is(1, x.charter(0, 0, 1999, 1999, 0, 0), "25: hour 1999 alone");
+        due.is(2, x.charter(0, 0, 2000, 9999, 0, 0), "25: behind the log till 9999");
+        due.is(2, x.counts(0, 0), "29: hour 0");
+        due.is(1, x.counts(1, 1999), "29: hour 1999");
+        due.is(NONE, x.counts(2, 2000), "29: the log has no hour 2000");
+        due.is(NONE, x.counts(2, 9999), "29: the log has no hour 9999");
+        due.is(2, x.account(0, 2000), "30: hour 2000");
+        due.is(2, x.account(0, 9999), "30: hour 9999");
+        due.is(NONE, x.account(0, 1998), "30: hour 1998");
+        due.is(1998, x.owners(0), "31: all but two");
+        for (int what = 5; what < 8; what++) {
+            due.is(0, x.charterTold(2, what), "27: nothing logged of 2000 .. 9999, " + what);
+        }
+        due.is(3, x.charter(1, 0, 1, 1998, 0, amounts(0, 999, 0)), "25: between, all but the edges");
+        due.is(0, x.owners(0), "31: none");
+        due.is(999L * 1499, x.pays(3), "28: 1499 hours that are not OFF");
+        due.is(499, x.charterTold(3, 6), "27: 499 hours OFF");
+        due.is(STATE, x.charter(0, 0, 0, 9999, 0, 0), "25: all hours");
+        due.is(4, x.charter(0, 1, 0, 9999, 0, 0), "25: all hours of the other ship");
+        due.is(STATE, x.charter(0, 1, 9999, 9999, 0, 0), "25: hour 9999 of it");
+        due.is(STATE, x.charter(0, 1, 0, 0, 0, 0), "25: hour 0 of it");
+    }
+
+    private static void mostAndLeast() {
+        int[] kinds = {VOYAGE, TIME, TRIP, CONSEC, BALLAST, SUBJECT};
+        // 2000 hours LAY at RATE 999, AMOUNT 99999, FREE 0
+        long[] most = {99999 + 1998000, 1998000, 99999 + 1998000, 2 * (99999 + 1998000), 0, 99999 + 1998000};
+        // none LAY, 2000 OFF; AMOUNT 0, RATE 999, FREE 999
+        long[] least = {-999 * 499, 0, 0, -2 * 999 * 499, 0, -999 * 499};
+        for (int kind : kinds) {
+            for (int sort = 1; sort <= 4; sort += 3) {
+                TrampOffice x = fleet();
+                for (int i = 0; i < 4; i++) {
+                    x.log(0, sort, 500);
+                }
+                x.charter(kind, 0, 0, 9999, 0, sort == 1 ? amounts(99999, 999, 0) : amounts(0, 999, 999));
+                if (kind == SUBJECT) {
+                    due.is(0, x.pays(0), "28: not lifted");
+                    x.lift(0, true);
+                }
+                due.is(sort == 1 ? most[kind] : least[kind], x.pays(0), "28: kind " + kind + ", all hours of sort " + sort);
+                due.is(sort == 1 ? 2000 : 0, x.charterTold(0, 5), "27: lay hours");
+                due.is(sort == 1 ? 0 : 2000, x.charterTold(0, 6), "27: off hours");
+            }
+        }
+        // a VOYAGE of 1001 LAY hours, FREE 999: two beyond
+        TrampOffice y = fleet();
+        y.log(0, 1, 500);
+        y.log(0, 1, 499);
+        y.charter(0, 0, 0, 9999, 0, amounts(5, 9, 999));
+        due.is(5, y.pays(0), "28: 999 of 999 FREE");
+        y.right(0, 500, 0);
+        due.is(5 - 4, y.pays(0), "28: 998 of 999 FREE");
+        y.right(0, 500, 2);
+        y.log(0, 2, 2);
+        due.is(5 + 18, y.pays(0), "28: 1001 of 999 FREE");
+    }
+
+    /** amounts is taken apart at 1000 and 1000000: each part at its least and its most. */
+    private static void amountsApart() {
+        int[] amounts = {0, 1, 99998, 99999};
+        int[] rates = {0, 1, 998, 999};
+        int[] frees = {0, 1, 998, 999};
+        for (int amount : amounts) {
+            for (int rate : rates) {
+                TrampOffice x = fleet();
+                x.log(0, 1, 2);
+                x.charter(TRIP, 0, 0, 0, 0, amounts(amount, rate, 999));
+                due.is(amount + rate, x.pays(0), "25: AMOUNT " + amount + ", RATE " + rate + " of a TRIP");
+                for (int free : frees) {
+                    x.charter(VOYAGE, 1, 10 + free, 10 + free, 0, amounts(amount, rate, free));
+                    due.is(amount - (long) free * (rate / 2), x.pays(x.count(4) - 1), "25: AMOUNT " + amount + ", RATE " + rate + ", FREE " + free);
+                }
+            }
+        }
+    }
+
+    /** One that fell is still one of twelve, but has no hours. */
+    private static void fullWithFallen() {
+        TrampOffice x = fleet();
+        for (int i = 0; i < 12; i++) {
+            due.is(i, x.charter(5, 0, 0, 9999, 0, 0), "25: charter " + i + " over those that fell");
+            due.is(STATE, x.charter(0, 0, 0, 0, 0, 0), "25: STATE, with or without room");
+            due.is(1, x.lift(i, false), "26: it fell");
+        }
+        due.is(FULL, x.charter(0, 0, 0, 0, 0, 0), "25: FULL, though all fell");
+        due.is(12, x.count(4), "25: twelve");
+        due.is(NONE, x.account(0, 0), "30: the owner's");
+        due.is(5, x.charterTold(11, 0), "27: the last one's KIND");
+        due.is(BAD, x.charterTold(12, 0), "27: no charter 12");
+        due.is(BAD, x.lift(12, true), "26: no charter 12");
+        due.is(NO, x.pays(12), "28: no charter 12");
+        due.is(BAD, x.counts(12, 0), "29: no charter 12");
+    }
+
+    private static void whichFirst() {
+        TrampOffice x = new TrampOffice();
+        due.is(BAD, x.charter(0, 0, 0, 0, 0, 0), "25: a new object has no ships");
+        due.is(BAD, x.lift(0, true), "26: a new object has no charters");
+        due.is(BAD, x.charterTold(0, 0), "27: a new object");
+        due.is(NO, x.pays(0), "28: a new object");
+        due.is(BAD, x.counts(0, 0), "29: a new object");
+        due.is(BAD, x.account(0, 0), "30: a new object");
+        due.is(BAD, x.owners(0), "31: a new object");
+        TrampOffice y = fleet();
+        y.charter(5, 0, 0, 9, 0, 0);
+        y.charter(0, 0, 10, 19, 0, 0);
+        // each wrong number ahead of an hour in common
+        due.is(BAD, y.charter(6, 0, 5, 6, 0, 0), "25: BAD (kind) ahead of STATE");
+        due.is(BAD, y.charter(0, 0, 6, 5, 0, 0), "25: BAD (from above to) ahead of STATE");
+        due.is(BAD, y.charter(0, 0, 5, 10000, 0, 0), "25: BAD (to) ahead of STATE");
+        due.is(BAD, y.charter(0, 0, -1, 5, 0, 0), "25: BAD (from) ahead of STATE");
+        due.is(BAD, y.charter(0, 0, 5, 6, 1, 0), "25: BAD (text) ahead of STATE");
+        due.is(BAD, y.charter(0, 0, 5, 6, 0, -1), "25: BAD (amounts) ahead of STATE");
+        due.is(STATE, y.charter(0, 0, 5, 6, 0, 0), "25: STATE");
+        due.is(2, y.count(4), "25: a refusal changes nothing");
+        y.lift(0, true);
+        due.is(BAD, y.lift(1, true), "26: another KIND");
+        due.is(STATE, y.lift(0, true), "26: it is lifted");
+        due.is(BAD, y.account(2, 10000), "30: all wrong");
+        due.is(NONE, y.counts(1, -1), "29: no hour: none of it");
+    }
+
+    /** hour and over begin anew at each charter's first hour; weekday and clock do not. */
+    private static void namesByCharter() {
+        TrampOffice x = fleet();
+        x.log(0, 0, 500);
+        TextsTest.feed(x, "lay hour=over and hour<24;off weekday=1 and clock=0;");
+        x.text();
+        x.charter(0, 0, 1, 23, 1, 0);
+        x.charter(0, 0, 24, 50, 1, 0);
+        x.charter(0, 0, 51, 191, 1, 0);
+        x.charter(0, 0, 192, 192, 1, 0);
+        due.is(23, x.charterTold(0, 5), "3: over is hour, all of 1 .. 23");
+        due.is(24, x.charterTold(1, 5), "3: 24 hours of 24 .. 50");
+        due.is(0, x.counts(1, 47), "3: hour 23 of it");
+        due.is(2, x.counts(1, 48), "3: hour 24 of it");
+        due.is(0, x.charterTold(1, 6), "3: hour 24 is LAY ahead of OFF");
+        due.is(24, x.charterTold(2, 5), "3: over begins at 0 again");
+        due.is(0, x.charterTold(2, 6), "3: no hour 0 of weekday 1 behind them");
+        due.is(0, x.counts(3, 192), "3: its hour 0 is LAY");
+        TextsTest.feed(x, "lay over;off weekday=1 and clock=0;");
+        x.text();
+        x.charter(0, 0, 193, 400, 2, 0);
+        due.is(0, x.charterTold(4, 5), "3: over is 0 till one is LAY");
+        due.is(1, x.charterTold(4, 6), "3: one hour 0 of weekday 1");
+        due.is(1, x.counts(4, 360), "3: it is hour 360");
+        due.is(2, x.counts(4, 359), "3: not the one ahead");
+        due.is(2, x.counts(4, 361), "3: not the one behind");
+    }
+
     public static void main(String[] args) {
+        countsOutside();
+        edgesOfTime();
+        mostAndLeast();
+        amountsApart();
+        fullWithFallen();
+        whichFirst();
+        namesByCharter();
         charter();
         lift();
         fell();

@@ -173,7 +173,75 @@ public final class HostTest {
         due.is(0, x.taken(5, 0), "35: one that fell");
     }
 
+    /** Each size from -1 to 41, each sort: its last item is taken, the one behind it is not. */
+    private static void eachSize() {
+        TrampOffice x = fleet();
+        for (int n = -1; n <= 41; n++) {
+            int want = n < 0 ? -14 : n > 40 ? BAD : 1;
+            due.is(want, x.sheet(n & 3, (n + 3) % 3, n), "33: n " + n);
+            if (want == 1) {
+                due.is(n == 0 ? -12 : 1, x.cell(n & 3, n - 1, 7), "34: item " + (n - 1) + " of " + n);
+                due.is(-12, x.cell(n & 3, n, 7), "34: item " + n + " of " + n);
+                due.is(-12, x.cell(n & 3, -1, 7), "34: item -1 of " + n);
+            }
+        }
+        // a smaller one than it was has no items of the larger one
+        x.sheet(0, 2, 40);
+        x.cell(0, 39, 5);
+        x.sheet(0, 2, 1);
+        due.is(-12, x.cell(0, 1, 0), "33: smaller");
+        x.sheet(0, 2, 40);
+        due.is(40, x.lay(0, 0, 2, 0, 40), "33: all 0 when it is larger again");
+        due.is(0, x.sort(0, 39), "33: all 0 when it is larger again");
+    }
+
+    private static void whichFirst() {
+        TrampOffice x = new TrampOffice();
+        due.is(BAD, x.sheet(4, 3, 41), "33: all wrong");
+        due.is(BAD, x.sheet(0, 3, 0), "33: no sort 3");
+        due.is(BAD, x.sheet(-1, -1, 0), "33: no sheet -1, missing");
+        due.is(BAD, x.sheet(0, -2, -1), "33: BAD (sort) ahead of -14");
+        due.is(-11, x.cell(0, 0, 0), "34: a refusal made no sheet");
+        due.is(-11, x.cell(3, 40, 0), "34: -11 ahead of -12, sheet 3");
+        due.is(BAD, x.cell(4, 40, 0), "34: BAD ahead of -11");
+        due.is(-11, x.taken(0, 0), "35: a new object has no charters");
+        due.is(BAD, x.taken(0, -1), "35: BAD ahead of -11, a new object");
+        TrampOffice y = fleet();
+        y.charter(0, 0, 0, 0, 0, 0);
+        due.is(BAD, y.taken(0, 6), "35: BAD ahead of -13");
+        due.is(-13, y.taken(0, 5), "35: -13");
+        due.is(-11, y.taken(1, 5), "35: -11 of a KIND it is not, either");
+        due.is(1, y.sheet(0, 0, 0), "33: n 0");
+        due.is(-14, y.sheet(0, 0, -1), "33: -14");
+        due.is(-12, y.cell(0, 0, 0), "33: still none in it");
+    }
+
+    /** A new object: nothing but TEXT 0; then each count at the document's limit. */
+    private static void countFull() {
+        TrampOffice x = new TrampOffice();
+        for (int what = 0; what < 7; what++) {
+            due.is(what == 3 ? 1 : 0, x.count(what), "32: new, what " + what);
+        }
+        for (int i = 0; i < 9; i++) x.port(10, 1);
+        for (int i = 0; i < 6; i++) x.ship(0, 100, 10, 1);
+        for (int i = 0; i < 11; i++) x.offer(0, 1, 1, 1, 1, 1);
+        for (int i = 0; i < 6; i++) {
+            TextsTest.feed(x, "lay 0;off 0;");
+            if (x.count(3) < 6) x.text();
+        }
+        for (int i = 0; i < 13; i++) x.charter(0, 0, i, i, 0, 0);
+        while (x.count(5) < 160) x.feed(1, 32);
+        for (int i = 0; i < 7; i++) x.go(i & 1);
+        int[] want = {8, 5, 10, 6, 12, 160, 6};
+        for (int what = 0; what < 7; what++) {
+            due.is(want[what], x.count(what), "32: full, what " + what);
+        }
+    }
+
     public static void main(String[] args) {
+        eachSize();
+        whichFirst();
+        countFull();
         count();
         sheet();
         cell();

@@ -185,7 +185,82 @@ public final class LogsTest {
         }
     }
 
+    /** Each way to the last hour: by a log of one, of 500, by a sheet. */
+    private static void lastHours() {
+        TrampOffice x = fleet();
+        for (int i = 0; i < 3; i++) {
+            x.log(0, 0, 500);
+        }
+        due.is(2000, x.log(0, 5, 500), "19: 500 that just have room");
+        due.is(5, x.sort(0, 1500), "19: hour 1500");
+        due.is(5, x.sort(0, 1999), "19: hour 1999");
+        due.is(NONE, x.sort(0, 2000), "22: hour 2000");
+        due.is(5, x.right(0, 1999, 2), "21: hour 1999");
+        due.is(2, x.sort(0, 1999), "21: hour 1999");
+        due.is(STATE, x.right(0, 2000, 2), "21: hour 2000");
+        due.is(BAD, x.right(0, 2000, 6), "21: BAD ahead of STATE, hour 2000");
+        due.is(2000, x.shipTold(0, 6), "8: 2000 hours");
+        for (int i = 0; i < 3; i++) {
+            x.log(1, 0, 500);
+        }
+        x.log(1, 0, 497);
+        row(x, 0, 2, 1, 2, 3, 4);
+        due.is(FULL, x.lay(1, 0, 2, 0, 4), "20: four, room for three");
+        due.is(2000, x.shipTold(1, 6), "20: three came");
+        due.is(1, x.sort(1, 1997), "20: the first of three");
+        due.is(3, x.sort(1, 1999), "20: the last of three");
+        due.is(NONE, x.sort(1, 2000), "20: not the fourth");
+        due.is(2000, x.lay(1, 0, 2, 1, 0), "20: n 0, no room");
+    }
+
+    /** What stood ahead came and no more, for each of the three that can stop it, and each is the first at its item. */
+    private static void stopsAtItem() {
+        TrampOffice x = fleet();
+        row(x, 0, 1, 5, 6);
+        due.is(BAD, x.lay(0, 0, 1, 1, 5), "20: BAD at the first item, outside behind it");
+        due.is(0, x.shipTold(0, 6), "20: none came");
+        due.is(BAD, x.lay(0, 0, 1, 0, Integer.MAX_VALUE), "20: BAD at the second item, outside behind it");
+        due.is(1, x.shipTold(0, 6), "20: one came");
+        due.is(-12, x.lay(0, 0, 1, -1, 2), "20: outside at the first item");
+        due.is(-12, x.lay(0, 0, 1, 2, 1), "20: outside behind the last item");
+        due.is(-12, x.lay(0, 0, 1, Integer.MAX_VALUE, 2), "20: outside, i can't go on");
+        due.is(1, x.shipTold(0, 6), "20: none came");
+        row(x, 0, 1, 5, 4, 3);
+        due.is(4, x.lay(0, 0, 1, 0, 3), "20: just all");
+        due.is(-12, x.lay(0, 0, 1, 0, 4), "20: one too many");
+        due.is(7, x.shipTold(0, 6), "20: all of them came");
+        due.is(-12, x.lay(0, 0, 1, 2, 2), "20: one, then outside");
+        due.is(8, x.shipTold(0, 6), "20: one came");
+        due.is(3, x.sort(0, 7), "20: it is the last item");
+    }
+
+    private static void whichFirst() {
+        TrampOffice x = new TrampOffice();
+        due.is(BAD, x.log(0, 0, 1), "19: a new object has no ships");
+        due.is(BAD, x.lay(0, 0, 0, 0, 0), "20: a new object, BAD ahead of -11");
+        due.is(BAD, x.right(0, 0, 0), "21: a new object, BAD ahead of STATE");
+        due.is(BAD, x.sort(0, 0), "22: a new object, BAD and not NONE");
+        TrampOffice y = fleet();
+        due.is(BAD, y.sort(2, -1), "22: no ship, no hour");
+        due.is(-11, y.lay(0, 0, 0, 0, 0), "20: a sheet that never was");
+        row(y, 0, 0, 9);
+        due.is(BAD, y.lay(2, 0, 1, 9, 9), "20: BAD (ship) ahead of -13, -12");
+        due.is(BAD, y.lay(0, 4, 1, 9, 9), "20: BAD (sheet)");
+        due.is(BAD, y.lay(0, 0, 3, 9, 9), "20: BAD (sort) ahead of -13, -12");
+        due.is(BAD, y.lay(0, 0, 0, 9, -1), "20: BAD (n) ahead of -12");
+        due.is(-13, y.lay(0, 0, 1, 9, 9), "20: -13 ahead of -12");
+        due.is(-13, y.lay(0, 0, 1, 0, 1), "20: -13 ahead of BAD of an item");
+        due.is(-12, y.lay(0, 0, 0, 9, 9), "20: -12");
+        y.sheet(0, -1, 0);
+        due.is(-11, y.lay(0, 0, 0, 0, 0), "20: missing again");
+        due.is(-11, y.lay(0, 0, 2, -1, 1), "20: -11 ahead of -12");
+        due.is(0, y.shipTold(0, 6), "20: no hour came");
+    }
+
     public static void main(String[] args) {
+        lastHours();
+        stopsAtItem();
+        whichFirst();
         log();
         lay();
         layInPart();

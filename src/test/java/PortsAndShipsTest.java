@@ -207,7 +207,50 @@ public final class PortsAndShipsTest {
         }
     }
 
+    private static void whichFirst() {
+        TrampOffice x = new TrampOffice();
+        due.is(BAD, x.way(0, 1, 1), "3: a new object has no ports");
+        due.is(BAD, x.price(0, 0), "4: a new object");
+        due.is(BAD, x.ship(0, 100, 10, 1), "5: a new object");
+        due.is(BAD, x.speed(0, 10), "6: a new object has no ships");
+        due.is(BAD, x.free(0, 0, 0), "7: a new object");
+        due.is(BAD, x.shipTold(0, 0), "8: a new object");
+        due.is(0, x.port(10, 0), "2: the first port");
+        due.is(BAD, x.way(0, 0, 1), "3: one port alone");
+        due.is(BAD, x.free(0, 0, 0), "7: no ship yet");
+        due.is(BAD, x.shipTold(-1, 7), "8: all wrong");
+    }
+
+    /** A gang and a price stay with their port, a way with its two ports, whatever is refused. */
+    private static void keptBehindRefusals() {
+        TrampOffice x = ported();
+        x.way(0, 1, 10);
+        x.ship(0, 9999, 999, 2);
+        x.offer(0, 1, 1000, 1, 0, 0);
+        // 10 hours of 100 tons, 1 at sea, 20 of 50; 1 ton burns at price 10
+        for (int round = 0; round < 2; round++) {
+            due.is(31, x.estimate(0, 0, 1), "2: hours by both gangs");
+            due.is(990, x.estimate(0, 0, 3), "2: by the first one's price");
+            x.port(9, 5);
+            x.port(10, 100);
+            x.way(0, 1, 0);
+            x.way(1, 0, 10000);
+            x.way(1, 1, 5);
+            x.price(0, 100);
+            x.price(0, -1);
+            x.speed(0, 5);
+            x.speed(0, 15);
+            x.free(0, 3, 5);
+            x.free(0, 1, 10000);
+            x.ship(0, 99, 10, 1);
+        }
+        due.is(3, x.count(0), "2: three ports");
+        due.is(1, x.count(1), "5: one ship");
+    }
+
     public static void main(String[] args) {
+        whichFirst();
+        keptBehindRefusals();
         newObject();
         port();
         way();

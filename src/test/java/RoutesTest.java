@@ -165,7 +165,133 @@ public final class RoutesTest {
         due.is(6, x.count(6), "17: the route stays");
     }
 
+    /** What an earlier plan bought tells nothing of the next one. */
+    private static void planAnew() {
+        TrampOffice x = sea(60, 5, 5, 5);
+        route(x, 0, 1, 2);
+        bunkered(x, "sold at both", 100, 10, 10);
+        x.price(1, 0);
+        bunkered(x, "none sold at the second any more", 100, 20, 0);
+        x.price(1, 6);
+        bunkered(x, "dearer at the second", 100, 20, 0);
+        x.price(0, 0);
+        bunkered(x, "none sold at the first any more", NONE);
+        due.is(NONE, x.bought(0, 0), "18: no way to buy, though there was one");
+        due.is(NONE, x.bought(0, 1), "18: no way to buy, though there was one");
+        x.price(0, 7);
+        due.is(10, x.bought(0, 0), "18: without a call of bunker");
+        due.is(10, x.bought(0, 1), "18: without a call of bunker");
+        x.way(0, 1, 160);
+        due.is(20, x.bought(0, 0), "18: a longer way");
+        x.ship(2, 100, 10, 20);
+        due.is(NONE, x.bought(1, 0), "18: another ship's bunkers are too small");
+        due.is(20, x.bought(0, 0), "18: the first ship again");
+        x.speed(0, 6);
+        // 27 hours of 22 by 24: 24.75; 14 hours: 12.8
+        due.is(25, x.bought(0, 0), "18: at another speed");
+        due.is(13, x.bought(0, 1), "18: at another speed");
+        x.clear();
+        due.is(NONE, x.bought(0, 0), "18: the route is empty");
+        x.go(0);
+        due.is(NONE, x.bought(0, 0), "18: a route of one");
+        x.go(1);
+        due.is(25, x.bought(0, 0), "18: a route of two");
+        due.is(NONE, x.bought(0, 1), "18: at the last of two");
+    }
+
+    /** The ship's place, hour and hold do not matter; it begins at the route's first port. */
+    private static void whereverItIs() {
+        TrampOffice x = sea(60, 5, 4, 3);
+        route(x, 0, 1);
+        x.free(0, 2, 9999);
+        bunkered(x, "a ship that is elsewhere", 50, 10);
+        due.is(2, x.shipTold(0, 0), "17: the ship stays");
+        due.is(9999, x.shipTold(0, 1), "17: the ship stays");
+    }
+
+    private static void burnsOne() {
+        TrampOffice x = new TrampOffice();
+        x.port(10, 1);
+        x.port(10, 0);
+        x.way(0, 1, 1);
+        x.ship(0, 100, 10, 1);
+        route(x, 0, 1);
+        bunkered(x, "1 ton", 1, 1);
+        route(x, 1, 0);
+        bunkered(x, "1 ton, none sold", NONE);
+        due.is(NONE, x.bought(0, 0), "18: 1 ton, none sold");
+        route(x, 0, 1, 0, 1, 0, 1);
+        bunkered(x, "1 ton each way", 5, 2, 0, 2, 0, 1);
+    }
+
+    /** Bunkers of 10, the least: just the way, or one ton too little; then on what is left. */
+    private static void neverMoreThanBunkers() {
+        TrampOffice x = sea(10, 9, 1, 9, 1);
+        route(x, 0, 1, 2, 3);
+        bunkered(x, "10 each way, bunkers 10", 190, 10, 10, 10);
+        x.way(1, 2, 81);
+        bunkered(x, "12 a way, bunkers 10", NONE);
+        TrampOffice y = sea(11, 1, 9, 9);
+        route(y, 0, 1, 2);
+        bunkered(y, "bunkers 11", 11 + 81, 11, 9);
+        TrampOffice z = sea(19, 1, 9, 9);
+        route(z, 0, 1, 2);
+        bunkered(z, "bunkers 19", 19 + 9, 19, 1);
+        z.price(1, 0);
+        bunkered(z, "bunkers 19, none sold at the second", NONE);
+        TrampOffice w = sea(20, 1, 9, 9);
+        route(w, 0, 1, 2);
+        bunkered(w, "bunkers 20", 20, 20, 0);
+        w.price(1, 0);
+        bunkered(w, "bunkers 20, none sold at the second", 20, 20, 0);
+        // it comes with 10, buys till it is full, and that is for the last two ways
+        TrampOffice v = sea(20, 1, 2, 9, 9);
+        route(v, 0, 1, 2, 3);
+        bunkered(v, "full at the second again", 20 + 20, 20, 10, 0);
+    }
+
+    private static void firstPortsFirst() {
+        TrampOffice x = sea(60, 4, 4, 9, 9, 9);
+        route(x, 0, 1, 2, 3);
+        // 30 are needed: as few as can be at the first, the rest at the second
+        bunkered(x, "like costs at the first two", 120, 10, 20, 0);
+        x.price(2, 4);
+        bunkered(x, "like costs at three", 120, 10, 10, 10);
+        x.price(1, 5);
+        bunkered(x, "like costs at the first and the third", 120, 20, 0, 10);
+        x.price(0, 5);
+        bunkered(x, "dear at the first two", 140, 10, 10, 10);
+        x.price(2, 5);
+        x.price(0, 4);
+        bunkered(x, "cheap at the first alone", 120, 30, 0, 0);
+        x.price(0, 99);
+        x.price(1, 99);
+        x.price(2, 99);
+        bunkered(x, "all at 99", 2970, 10, 10, 10);
+    }
+
+    private static void whichFirst() {
+        TrampOffice x = new TrampOffice();
+        due.is(BAD, x.go(0), "15: a new object has no ports");
+        due.is(0, x.clear(), "16: a new object");
+        due.is(BAD, x.bunker(0), "17: a new object, BAD ahead of NONE");
+        due.is(BAD, x.bought(0, 0), "18: a new object, BAD ahead of NONE");
+        TrampOffice y = sea(60, 1, 2);
+        route(y, 0, 1);
+        due.is(BAD, y.bought(1, 5), "18: BAD ahead of NONE for i");
+        due.is(BAD, y.bought(1, -1), "18: BAD ahead of NONE for i");
+        due.is(BAD, y.bunker(1), "17: no ship 1");
+        due.is(2, y.count(6), "15: the route stays");
+        due.is(10, y.bunker(0), "17: the route stays");
+    }
+
     public static void main(String[] args) {
+        planAnew();
+        whereverItIs();
+        burnsOne();
+        neverMoreThanBunkers();
+        firstPortsFirst();
+        whichFirst();
         go();
         none();
         least();
