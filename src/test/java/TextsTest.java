@@ -4,6 +4,7 @@ public final class TextsTest {
     private static final int[] FAR = {Integer.MIN_VALUE, -2147483647, -1, Integer.MAX_VALUE};
     private static final Due due = new Due("TextsTest");
     private static TrampOffice faults = new TrampOffice();
+    private static int faultsOfIt = 0;
 
     static int feed(TrampOffice x, String text) {
         int size = x.count(5);
@@ -18,7 +19,13 @@ public final class TextsTest {
         return size;
     }
 
+    /** Some faults on one object, but not more than its 512 calls. */
     private static void fault(int place, String text) {
+        if (faultsOfIt == 20) {
+            faults = new TrampOffice();
+            faultsOfIt = 0;
+        }
+        faultsOfIt++;
         due.is(text.length(), feed(faults, text), "23: '" + text + "' on the tape");
         due.is(-100 - place, faults.text(), "24: fault of '" + text + "'");
         due.is(0, faults.count(5), "24: the tape is empty by a fault too");
@@ -396,7 +403,232 @@ public final class TextsTest {
         due.is(0, x.counts(4, 44 + 1), "24: what is not 0 is true");
     }
 
+    /** Each of the 256 bytes, where only a blank can stand, where a ONE is due, and ahead of all. */
+    private static void eachByte() {
+        for (char b = 0; b < 256; b++) {
+            boolean blank = b == 32 || b == 10;
+            boolean digit = b >= '0' && b <= '9';
+            String behind = "lay 1;off 1;" + b;
+            String inside = "lay (" + b + "1);off 1;";
+            String ahead = b + "lay 1;off 1;";
+            if (blank) {
+                good(behind);
+                good(ahead);
+            } else {
+                fault(12, behind);
+                fault(0, ahead);
+            }
+            if (blank || digit || b == '-') {
+                good(inside);
+            } else if (b == '(') {
+                fault(8, inside);
+            } else {
+                fault(5, inside);
+            }
+        }
+    }
+
+    /** Each KEY and NAME but for one letter: another one, one less, one more. */
+    private static void eachLetter() {
+        String[] texts = {"@ 1;off 1;", "lay 1;@ 1;", "lay 1 @ 1;off 1;", "lay 1 @ 1;off 1;", "lay @ 1;off 1;",
+            "lay @;off 1;", "lay @;off 1;", "lay @;off 1;", "lay @;off 1;", "lay @;off 1;"};
+        String[] words = {"lay", "off", "or", "and", "not", "sort", "weekday", "clock", "hour", "over"};
+        for (int w = 0; w < words.length; w++) {
+            String word = words[w];
+            String text = texts[w];
+            int at = text.indexOf('@');
+            good(text.replace("@", word));
+            fault(at, text.replace("@", word + "x"));
+            fault(at, text.replace("@", "x" + word));
+            fault(at, text.replace("@", word + word));
+            for (int i = 0; i < word.length(); i++) {
+                String head = word.substring(0, i);
+                String tail = word.substring(i + 1);
+                for (char other : new char[] {'a', 'q', 'z', (char) (word.charAt(i) + 1), (char) (word.charAt(i) - 1)}) {
+                    if (other != word.charAt(i)) fault(at, text.replace("@", head + other + tail));
+                }
+                fault(at, text.replace("@", head + tail));
+                // what stands ahead of a letter that is none of a .. z is no word
+                fault(at, text.replace("@", head + (char) (word.charAt(i) - 32) + tail));
+            }
+        }
+    }
+
+    /** Words of 7 and 8 letters, numbers of 4 and 5 digits, at the end of a tape too. */
+    private static void longTokens() {
+        goodLay("weekday");
+        faultOfLay(0, "weekdayy");
+        faultOfLay(0, "aweekday");
+        faultOfLay(0, "abcdefg");
+        faultOfLay(0, "abcdefgh");
+        faultOfLay(7, "weekday0");
+        goodLay("weekday+0");
+        goodLay("0001");
+        goodLay("1234+5678");
+        faultOfLay(0, "00001");
+        faultOfLay(5, "1234+56789");
+        fault(4, "lay 99999");
+        fault(8, "lay 9999");
+        fault(0, "abcdefghijklmnopqrstuvwxyz");
+        fault(0, "lays");
+        fault(0, "12345");
+        StringBuilder digits = new StringBuilder("lay ");
+        while (digits.length() < 160) digits.append('7');
+        fault(4, digits.toString());
+        StringBuilder letters = new StringBuilder();
+        while (letters.length() < 160) letters.append('a');
+        fault(0, letters.toString());
+    }
+
+    /** A text that ends after n of its bytes, for each n: too early, or within a KEY. */
+    private static void cutTexts() {
+        String text = "lay(1<2)=-3*4;off 5;";
+        for (int n = 0; n < text.length(); n++) {
+            fault(n < 3 ? 0 : n == 15 || n == 16 ? 14 : n, text.substring(0, n));
+            if (n != 1 && n != 2 && n != 15 && n != 16) fault(n + 2, text.substring(0, n) + " \n");
+        }
+        good(text);
+        for (int n = 0; n < 140; n++) {
+            text = text + (n % 2 == 0 ? " " : "\n");
+            if (n % 20 == 0 || n == 139) good(text);
+        }
+        due.is(160, text.length(), "23: 160 bytes");
+        fault(160, text.substring(21) + "                     ");
+    }
+
+    /** Each row of five that are open, of ( and not and - : good; a sixth one, whichever, has the fault. */
+    private static void eachNest() {
+        String[] openers = {"(", "not ", "-"};
+        for (int rows = 0; rows < 243; rows++) {
+            StringBuilder open = new StringBuilder();
+            StringBuilder close = new StringBuilder();
+            boolean can = true;
+            int last = 0;
+            for (int k = 0, rest = rows; k < 5; k++, rest /= 3) {
+                int which = rest % 3;
+                // a - is of a ONE, and a not is none
+                can = can && !(which == 1 && last == 2);
+                last = which;
+                open.append(openers[which]);
+                if (which == 0) close.append(")");
+            }
+            if (can) {
+                goodLay(open + "0" + close);
+                faultOfLay(open.length(), open + "(0)" + close);
+                faultOfLay(open.length(), open + "-0" + close);
+                faultOfLay(open.length(), open + "not 0" + close);
+                // behind them nothing is open any more
+                goodLay(open + "0" + close + " or " + open + "0" + close);
+            }
+        }
+    }
+
+    /** Till what they belong to ends: a ( till its ), a not over < and = and +, a - over its ONE alone. */
+    private static void openTill() {
+        goodLay("not 0 = ((((0))))");
+        faultOfLay(12, "not 0 = (((((0)))))");
+        goodLay("not 0 and (((((0)))))");
+        goodLay("not 0 or (((((0)))))");
+        goodLay("not (0) < ((((0))))");
+        goodLay("(not 0) = (((((0)))))");
+        goodLay("-0 = (((((0)))))");
+        goodLay("-(((0))) * -((((0))))");
+        faultOfLay(16, "-(((0))) * -(((((0)))))");
+        goodLay("-(0 + (((0))) * (((0))))");
+        faultOfLay(9, "-(0 + (((((0))))))");
+        goodLay("not not 0 < (((0)))");
+        faultOfLay(15, "not not 0 < ((((0))))");
+        goodLay("((((0) + (0)) * (0)) - (0))");
+        good("lay (((((0)))));off (((((0)))));");
+        good("lay not not not not not 0;off not not not not not 0;");
+        fault(24, "lay (((((0)))));off((((((0))))));");
+    }
+
+    /** What a text with a fault said is not in the next one, be it as long as it may. */
+    private static void afterFaults() {
+        TrampOffice x = new TrampOffice();
+        x.port(10, 1);
+        x.ship(0, 100, 10, 1);
+        x.log(0, 0, 9);
+        for (int i = 0; i < 3; i++) {
+            StringBuilder long1 = new StringBuilder("lay 1;off 1");
+            while (long1.length() < 158) long1.append("+1");
+            feed(x, long1.toString());
+            due.is(-100 - long1.length(), x.text(), "24: ends too early");
+        }
+        feed(x, "lay hour = 2 or hour = 3 and not over;off hour = 4 or hour = 0;");
+        due.is(1, x.text(), "24: a good one behind faults");
+        x.charter(0, 0, 0, 9, 1, 0);
+        int[] want = {1, 2, 0, 2, 1, 2, 2, 2, 2};
+        for (int hour = 0; hour < 9; hour++) {
+            due.is(want[hour], x.counts(0, hour), "24: nothing is left of the faults, hour " + hour);
+        }
+        feed(x, "lay 1;off 1;;");
+        due.is(-112, x.text(), "24: a fault behind a good text");
+        for (int hour = 0; hour < 9; hour++) {
+            due.is(want[hour], x.counts(0, hour), "24: the good one stays, hour " + hour);
+        }
+        due.is(2, x.count(3), "24: two texts");
+        due.is(BAD, x.charter(0, 0, 20, 30, 2, 0), "25: no text of a fault");
+    }
+
+    /** The least and the most that a long can be, fed by each n; of its bytes no more than the n lowest. */
+    private static void feedEdges() {
+        long[] edges = {Long.MIN_VALUE, Long.MAX_VALUE, -1, 0, 0x3b66666f3b79616cL};
+        for (long bytes : edges) {
+            for (int n = 1; n <= 8; n++) {
+                TrampOffice x = new TrampOffice();
+                due.is(n, x.feed(n, bytes), "23: " + n + " bytes of " + bytes);
+                due.is(bytes > 0 && bytes < Long.MAX_VALUE ? n < 3 ? -100 : -103 : -100, x.text(), "24: " + n + " bytes of " + bytes);
+                due.is(0, x.count(5), "24: empty");
+            }
+        }
+        TrampOffice x = new TrampOffice();
+        // lay 1;of, then f 1; with bytes behind the n lowest
+        x.feed(8, 0x666f3b312079616cL);
+        due.is(12, x.feed(4, 0x7f7f7f7f3b312066L), "23: four of eight");
+        due.is(1, x.text(), "24: no more than four came");
+        due.is(BAD, x.feed(Integer.MIN_VALUE, 32), "23: n far below");
+        due.is(BAD, x.feed(Integer.MAX_VALUE, 32), "23: n far above");
+        for (int i = 0; i < 20; i++) {
+            due.is(8 * i + 8, x.feed(8, 0x2020202020202020L), "23: till 160");
+        }
+        for (int n = 1; n <= 8; n++) {
+            due.is(FULL, x.feed(n, 32), "23: no room for " + n);
+        }
+        due.is(BAD, x.feed(0, 32), "23: BAD ahead of FULL, n 0");
+        due.is(BAD, x.feed(9, 32), "23: BAD ahead of FULL, n 9");
+        due.is(160, x.count(5), "23: 160 bytes");
+        due.is(-260, x.text(), "24: 160 blanks");
+        due.is(1, x.feed(1, 32), "23: room again");
+    }
+
+    /** A fault at each place of a text: a byte that begins none, in place of each byte of it. */
+    private static void eachPlace() {
+        String text = "lay (1 or 2) * 3 ; off not 4 < - 5 ;";
+        for (int i = 0; i < text.length(); i++) {
+            String wrong = text.substring(0, i) + "?" + text.substring(i + 1);
+            // what is left of a word of three letters ahead of it is no word
+            int place = i;
+            if (i == 1 || i == 2) place = 0;
+            if (i == 8) place = 7;
+            if (i == 20 || i == 21) place = 19;
+            if (i == 24 || i == 25) place = 23;
+            fault(place, wrong);
+        }
+        good(text);
+    }
+
     public static void main(String[] args) {
+        eachByte();
+        eachLetter();
+        longTokens();
+        cutTexts();
+        eachNest();
+        openTill();
+        afterFaults();
+        feedEdges();
+        eachPlace();
         feeding();
         fullOfTexts();
         tokens();
