@@ -199,6 +199,17 @@ public final class RoutesTest {
         due.is(NONE, x.bought(0, 1), "18: at the last of two");
     }
 
+    /** At the second port it bought for the third one's way too, till none is sold there. */
+    private static void noneSoldAnyMore() {
+        TrampOffice x = sea(60, 50, 1, 9, 9);
+        route(x, 0, 1, 2, 3);
+        bunkered(x, "cheap at the second", 500 + 20, 10, 20, 0);
+        x.price(1, 0);
+        bunkered(x, "none sold at the second any more", 1000 + 90, 20, 0, 10);
+        x.price(2, 0);
+        bunkered(x, "none sold at the third either", 1500, 30, 0, 0);
+    }
+
     /** The ship's place, hour and hold do not matter; it begins at the route's first port. */
     private static void whereverItIs() {
         TrampOffice x = sea(60, 5, 4, 3);
@@ -287,6 +298,7 @@ public final class RoutesTest {
 
     public static void main(String[] args) {
         planAnew();
+        noneSoldAnyMore();
         whereverItIs();
         burnsOne();
         neverMoreThanBunkers();
