@@ -236,6 +236,22 @@ public final class HostTest {
         for (int what = 0; what < 7; what++) {
             due.is(want[what], x.count(what), "32: full, what " + what);
         }
+        // the number behind the last one that there can be
+        due.is(BAD, x.price(8, 1), "4: no port 8");
+        due.is(BAD, x.go(8), "15: no port 8");
+        due.is(BAD, x.shipTold(5, 0), "8: no ship 5");
+        due.is(BAD, x.bunker(5), "17: no ship 5");
+        due.is(BAD, x.owners(5), "31: no ship 5");
+        due.is(BAD, x.why(4, 10), "10: no offer 10");
+        due.is(BAD, x.fix(4, 10), "14: no offer 10");
+        due.is(TrampOffice.NO, x.estimate(4, 10, 0), "11: no offer 10");
+        due.is(BAD, x.charter(0, 1, 0, 0, 6, 0), "25: no text 6");
+        due.is(BAD, x.charterTold(12, 0), "27: no charter 12");
+        due.is(-11, x.taken(12, 0), "35: no charter 12");
+        due.is(0, x.shipTold(4, 0), "8: ship 4 is there");
+        due.is(2, x.why(4, 9), "10: offer 9 is there, its way lacks");
+        due.is(TrampOffice.FULL, x.charter(0, 1, 0, 0, 5, 0), "25: text 5 is there");
+        due.is(11, x.charterTold(11, 2), "27: charter 11 is there");
     }
 
     public static void main(String[] args) {

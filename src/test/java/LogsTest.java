@@ -150,6 +150,11 @@ public final class LogsTest {
         due.is(1, x.sort(0, 2), "21: the one behind stays");
         due.is(1, x.right(0, 0, 1), "21: the first one");
         due.is(1, x.right(0, 2, 2), "21: the last one");
+        due.is(1, x.right(0, 0, 4), "21: the first one, to another");
+        due.is(4, x.sort(0, 0), "21: the first one is another");
+        due.is(4, x.right(0, 0, 1), "21: the first one, back");
+        due.is(2, x.right(0, 2, 3), "21: the last one, to another");
+        due.is(3, x.sort(0, 2), "21: the last one is another");
         due.is(STATE, x.right(0, 3, 0), "21: behind the log");
         due.is(STATE, x.right(0, 9999, 0), "21: hour 9999");
         due.is(STATE, x.right(1, 0, 0), "21: an empty log");

@@ -242,6 +242,11 @@ public final class RoutesTest {
         bunkered(x, "10 each way, bunkers 10", 190, 10, 10, 10);
         x.way(1, 2, 81);
         bunkered(x, "12 a way, bunkers 10", NONE);
+        TrampOffice far = sea(60, 1, 9, 9);
+        far.way(1, 2, 481);
+        route(far, 0, 1, 2);
+        bunkered(far, "62 on the second way, bunkers 60", NONE);
+        due.is(NONE, far.bought(0, 0), "18: 62 on the second way");
         TrampOffice y = sea(11, 1, 9, 9);
         route(y, 0, 1, 2);
         bunkered(y, "bunkers 11", 11 + 81, 11, 9);
